@@ -248,7 +248,6 @@ public final class LineTables {
 
     /** Rows of residues, which have 1 at their places. */
     private static final class Residues extends Kind {
-        @Override
         void lead(Table table, int row, int column) {
             int factor = inverse(table.small(row, column), table.field);
             for (int j = 0; j < table.columns; j++) {
@@ -256,7 +255,6 @@ public final class LineTables {
             }
         }
 
-        @Override
         void clear(Table table, int row, int leader, int column) {
             int times = table.small(row, column);
             for (int j = 0; j < table.columns; j++) {
@@ -265,7 +263,6 @@ public final class LineTables {
             }
         }
 
-        @Override
         void fillDual(Table to, int row, Table from, int column) {
             to.setSmall(row, column, 1);
             for (int r = 0; r < from.rows; r++) {
@@ -313,7 +310,6 @@ public final class LineTables {
             rest = new Whole();
         }
 
-        @Override
         void lead(Table table, int row, int column) {
             for (int j = 0; j < table.columns; j++) {
                 table.load(row, j, line[j]);
@@ -325,7 +321,6 @@ public final class LineTables {
             }
         }
 
-        @Override
         void clear(Table table, int row, int leader, int column) {
             // The row's factor is above 0, so what the row has at its own place stays above 0.
             table.load(leader, column, rowFactor);
@@ -341,7 +336,6 @@ public final class LineTables {
             storeLine(table, row);
         }
 
-        @Override
         void fillDual(Table to, int row, Table from, int column) {
             to.setSmall(row, column, 1);
             for (int r = 0; r < from.rows; r++) {
@@ -540,6 +534,7 @@ public final class LineTables {
     /** A whole number of a fixed room, changed in place; limbs are to the base 2^30, lowest first. */
     private static final class Whole {
         static final int BITS = 30;
+        private static final int INT_BITS = 32;
         private static final int MASK = (1 << BITS) - 1;
         /** Room for the product of two kept numbers, what a sum carries, and what a division needs. */
         private static final int LIMBS = 2 * Table.KEPT_LIMBS + 2;
@@ -578,7 +573,7 @@ public final class LineTables {
         /** Becomes the product of two other numbers. */
         void setProduct(Whole a, Whole b) {
             setZero();
-            if (a.count + b.count > LIMBS) {
+            if (a.signum == 0 || b.signum == 0 || a.count + b.count > LIMBS) {
                 return;
             }
             count = a.count + b.count;
@@ -592,9 +587,7 @@ public final class LineTables {
                     limbs[i + j] = (int) (carry & MASK);
                     carry >>= BITS;
                 }
-                if (b.count > 0) {
-                    limbs[i + b.count] = (int) carry;
-                }
+                limbs[i + b.count] = (int) carry;
             }
             trim();
         }
@@ -621,14 +614,14 @@ public final class LineTables {
             if (size == 0 || count < size || count >= LIMBS) {
                 return;
             }
-            int shift = Integer.numberOfLeadingZeros(divisor.limbs[size - 1]) - (Integer.SIZE - BITS);
-            long top = Math.max(1, divisor.top(size, shift) >> BITS);
+            int shift = Integer.numberOfLeadingZeros(divisor.limbs[size - 1]) - (INT_BITS - BITS);
+            long top = Math.max(1, divisor.topBelow(size, shift) >> BITS);
             quotient.count = count - size + 1;
             quotient.signum = signum * divisor.signum;
             limbs[count] = 0;
             for (int at = count - size; at >= 0; at--) {
                 // With the divisor's top bit in the limb's top bit, this is at most 2 too large.
-                long guess = Math.min(top(at + size + 1, shift) / top, MASK);
+                long guess = Math.min(topBelow(at + size + 1, shift) / top, MASK);
                 quotient.limbs[at] = takeAway(divisor, guess, at);
             }
             quotient.trim();
@@ -637,10 +630,10 @@ public final class LineTables {
         }
 
         /** The two limbs below an end, moved up by some bits, which the limb below them gives. */
-        private long top(int end, int shift) {
-            long high = end >= 1 && end <= LIMBS ? limbs[end - 1] : 0;
-            long low = end >= 2 && end <= LIMBS ? limbs[end - 2] : 0;
-            long below = end >= 3 && end <= LIMBS ? limbs[end - 3] : 0;
+        private long topBelow(int end, int shift) {
+            long high = end >= 1 ? limbs[end - 1] : 0;
+            long low = end >= 2 ? limbs[end - 2] : 0;
+            long below = end >= 3 ? limbs[end - 3] : 0;
             return (high << BITS | low) << shift | below >> (BITS - shift);
         }
 
