@@ -345,6 +345,8 @@ public final class PromisesTest {
             Check.due("at the place", Check.number(x, 0, row, row), BigInteger.valueOf(999).pow(power));
             Check.due("in the last column", Check.number(x, 0, row, 11), BigInteger.valueOf(998).pow(power).negate());
         }
+        Check.due("sign of many digits above 0", x.sign(0, 0, 0), 1);
+        Check.due("sign of many digits below 0", x.sign(0, 0, 11), -1);
         Check.due("the dual of powers", x.dual(1, 0), 1);
         BigInteger last = BigInteger.valueOf(999).pow(11);
         Check.due("its last number", Check.number(x, 1, 0, 11), last);
