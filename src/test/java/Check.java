@@ -1,7 +1,12 @@
-import java.math.BigInteger;
+import java.lang.reflect.InvocationTargetException;
+import java.lang.reflect.Method;
+import java.util.ArrayList;
+import java.util.Comparator;
+import java.util.List;
 
-/** What the project's own tests share: counting wrong answers, and telling tables as text. */
+/** What the project's own tests share: running them one by one, and counting wrong answers. */
 final class Check {
+    private static final long MILLISECONDS = 600_000;
     private static int wrong = 0;
     private static int asked = 0;
 
@@ -16,68 +21,70 @@ final class Check {
         }
     }
 
+    static List<Method> sentenceTests(Class<?> tests) {
+        List<Method> found = new ArrayList<>();
+        for (Method method : tests.getDeclaredMethods()) {
+            if (method.isAnnotationPresent(Sentence.class)) {
+                found.add(method);
+            }
+        }
+        found.sort(Comparator.comparing(Method::getName));
+        return found;
+    }
+
+    /** Runs each test of a class that stands for a sentence, and ends. */
+    static void sentences(Class<?> tests) {
+        watch();
+        List<Method> found = sentenceTests(tests);
+        int broken = 0;
+        for (Method test : found) {
+            int wrongBefore = wrong;
+            int askedBefore = asked;
+            call(test);
+            due(test.getName() + " looks at an answer", asked > askedBefore, true);
+            if (wrong > wrongBefore) {
+                broken++;
+                System.out.println("BROKEN: " + test.getName() + ", of the sentences "
+                        + List.of(test.getAnnotation(Sentence.class).value()));
+            }
+        }
+        System.out.println(found.size() + " tests of sentences, " + broken + " broken");
+        end();
+    }
+
+    /** What a test throws is one wrong answer, and the others run all the same. */
+    private static void call(Method test) {
+        try {
+            test.invoke(null);
+        } catch (InvocationTargetException thrown) {
+            due(test.getName() + " throws", thrown.getCause().toString(), "nothing");
+        } catch (IllegalAccessException refused) {
+            due(test.getName() + " can be called", refused.toString(), "yes");
+        }
+    }
+
+    /** A call that does not end must not keep the tests from failing. */
+    static void watch() {
+        Thread watch = new Thread(Check::haltInTime);
+        watch.setDaemon(true);
+        watch.start();
+    }
+
+    private static void haltInTime() {
+        try {
+            Thread.sleep(MILLISECONDS);
+        } catch (InterruptedException early) {
+            return;
+        }
+        System.out.println("a call does not end");
+        Runtime.getRuntime().halt(1);
+    }
+
     /** Ends the test: with exit code 1 if an answer was not the one that is due. */
     static void end() {
         System.out.println(asked + " answers looked at, " + wrong + " not as due");
         if (wrong != 0 || asked == 0) {
             System.exit(1);
-        }
-    }
-
-    /** A number as sign and digits tell it; ten digits are more than any table has. */
-    static BigInteger number(LineTables x, int t, int row, int column) {
-        BigInteger size = BigInteger.ZERO;
-        for (int i = 9; i >= 0; i--) {
-            size = size.shiftLeft(16).add(BigInteger.valueOf(x.digit(t, row, column, i)));
-        }
-        int sign = x.sign(t, row, column);
-        due("sign and digits of " + row + ", " + column + " agree", sign == 0, size.signum() == 0);
-        return sign < 0 ? size.negate() : size;
-    }
-
-    /** A number that is known to have one digit, in few calls. */
-    private static int small(LineTables x, int t, int row, int column) {
-        return x.sign(t, row, column) * x.digit(t, row, column, 0);
-    }
-
-    /** All that is told of a table whose numbers have one digit. */
-    static String table(LineTables x, int t) {
-        StringBuilder text = new StringBuilder();
-        int rows = x.of(t, 1);
-        int columns = x.of(t, 2);
-        text.append("field ").append(x.of(t, 0)).append(", ").append(rows).append(" x ").append(columns);
-        text.append(x.of(t, 3) == 1 ? ", reduced" : ", loose");
-        for (int row = 0; row < rows; row++) {
-            text.append(row == 0 ? ": " : " | ");
-            int place = x.place(t, row);
-            if (place != LineTables.NONE) {
-                text.append("at ").append(place).append(":");
-            }
-            for (int column = 0; column < columns; column++) {
-                text.append(column == 0 && place == LineTables.NONE ? "" : " ").append(small(x, t, row, column));
-            }
-        }
-        return text.toString();
-    }
-
-    /** All that is told of all tables. */
-    static String state(LineTables x) {
-        StringBuilder text = new StringBuilder();
-        for (int t = 0; t < 8; t++) {
-            text.append(t).append(": ").append(table(x, t)).append('\n');
-        }
-        return text.toString();
-    }
-
-    /** A new loose table with these numbers. */
-    static void fill(LineTables x, int t, int field, int columns, int[][] numbers) {
-        due("begin", x.begin(t, field, numbers.length, columns), true);
-        for (int row = 0; row < numbers.length; row++) {
-            for (int column = 0; column < columns; column++) {
-                if (numbers[row][column] != 0) {
-                    due("put", x.put(t, row, column, numbers[row][column]), true);
-                }
-            }
         }
     }
 }

@@ -1,8 +1,8 @@
+import java.util.Arrays;
 import java.util.Random;
 
 /** Runs of at most 512 calls, from fixed seeds, on the program and on the model. */
 public final class ModelTest {
-    private static final int CALLS = 512;
     private static final int[] PRIMES = {2, 2, 3, 5, 7, 13, 127, 241, 251};
     /** A table of signs whose minors are as large as they can be: Hadamard's of order 12, Paley's way. */
     private static final int[][] SIGNS = signs();
@@ -20,6 +20,7 @@ public final class ModelTest {
     }
 
     public static void main(String[] args) {
+        Check.watch();
         for (int seed = 0; seed < 1500; seed++) {
             new ModelTest("small run " + seed, seed).smallRun();
         }
@@ -51,7 +52,7 @@ public final class ModelTest {
     }
 
     private static String told(String method, Object... arguments) {
-        return method + java.util.Arrays.toString(arguments);
+        return method + Arrays.toString(arguments);
     }
 
     private void begin(int t, int field, int rows, int columns) {
@@ -163,7 +164,7 @@ public final class ModelTest {
     }
 
     private void goOn(int asksForOneChange) {
-        while (calls < CALLS - 1) {
+        while (calls < Run.CALLS - 1) {
             if (random.nextInt(asksForOneChange + 1) == 0) {
                 change();
             } else {
