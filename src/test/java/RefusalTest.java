@@ -40,6 +40,8 @@ public final class RefusalTest {
     private static final int LOOSE_RESIDUES = 4;
     private static final int NINE_COLUMNS = 6;
     private static final int NEW = 7;
+    /** Where a result that should not be made would show: its field, size and numbers are like no other's. */
+    private static final int FILLED = LOOSE_RESIDUES;
 
     public static void main(String[] args) {
         Check.sentences(RefusalTest.class);
@@ -65,6 +67,41 @@ public final class RefusalTest {
         Check.due("the sample", x.state(), Sample.STATE);
         Sample.goOn(x);
         Check.due("the sample later", x.state(), Sample.LATER);
+    }
+
+    /** A table of 12 rows and 12 columns, where nothing of an array is left behind the last. */
+    private static Run full() {
+        Run x = new Run().noRows(0, 0, 12);
+        x.dual(0, 0);
+        return x;
+    }
+
+    @Sentence({TURN, LEAVE, SUM, PLACE, SIGN, DIGIT, NOTHING})
+    static void behindAFullTable() {
+        Run x = full();
+        Check.due("turn row 12", x.turn(0, 12, 11), NONE);
+        Check.due("turn to column 12", x.turn(0, 11, 12), NONE);
+        Check.due("leave column 12", x.leave(0, 0, 4096, false), NONE);
+        Check.due("leave zeros of column 12", x.leave(0, 0, 4096, true), NONE);
+        Check.due("sum to 24 columns", x.sum(0, 0, 0), NONE);
+        Check.due("place of row 12", x.place(0, 12), NONE);
+        Check.due("sign in row 12", x.sign(0, 12, 11), 0);
+        Check.due("sign in column 12", x.sign(0, 11, 12), 0);
+        Check.due("digit in row 12", x.digit(0, 12, 11, 0), NONE);
+        Check.due("digit in column 12", x.digit(0, 11, 12, 0), NONE);
+        Check.due("what these changed", x.table(0), full().table(0));
+    }
+
+    @Sentence({PUT, NOTHING})
+    static void putBehindAFullTable() {
+        Run x = new Run();
+        x.begin(0, 0, 12, 12);
+        Check.due("put into row 12", x.put(0, 12, 11, 1), false);
+        Check.due("put into column 12", x.put(0, 11, 12, 1), false);
+        Check.due("put into column 12 of row 0", x.put(0, 0, 12, 1), false);
+        Run twin = new Run();
+        twin.begin(0, 0, 12, 12);
+        Check.due("what these changed", x.table(0), twin.table(0));
     }
 
     // begin
@@ -257,29 +294,30 @@ public final class RefusalTest {
 
     @Sentence({DUAL, NOTHING})
     static void dualOfLoose() {
-        refused("dual of a loose table", x -> x.dual(NEW, LOOSE), NONE);
+        refused("dual of a loose table", x -> x.dual(FILLED, LOOSE), NONE);
+        refused("dual of a loose table to a new one", x -> x.dual(NEW, LOOSE), NONE);
         refused("dual of a loose table to itself", x -> x.dual(LOOSE, LOOSE), NONE);
         refused("dual of a loose table of residues", x -> x.dual(RESIDUES, LOOSE_RESIDUES), NONE);
     }
 
     @Sentence({DUAL, NOTHING})
     static void dualTableBelow() {
-        refusedEach("dual of a table below 0", BELOW, t -> x -> x.dual(NEW, t), NONE);
+        refusedEach("dual of a table below 0", BELOW, t -> x -> x.dual(FILLED, t), NONE);
     }
 
     @Sentence({DUAL, NOTHING})
     static void dualTableAbove() {
-        refusedEach("dual of a table above 7", NO_TABLE, t -> x -> x.dual(NEW, t), NONE);
+        refusedEach("dual of a table above 7", NO_TABLE, t -> x -> x.dual(FILLED, t), NONE);
     }
 
     @Sentence({DUAL, NOTHING})
     static void dualToBelow() {
-        refusedEach("dual to a table below 0", BELOW, to -> x -> x.dual(to, REDUCED), NONE);
+        refusedEach("dual to a table below 0", BELOW, to -> x -> x.dual(to, TURNED), NONE);
     }
 
     @Sentence({DUAL, NOTHING})
     static void dualToAbove() {
-        refusedEach("dual to a table above 7", NO_TABLE, to -> x -> x.dual(to, REDUCED), NONE);
+        refusedEach("dual to a table above 7", NO_TABLE, to -> x -> x.dual(to, TURNED), NONE);
     }
 
     // leave
@@ -297,98 +335,102 @@ public final class RefusalTest {
     @Sentence({LEAVE, NOTHING})
     static void leaveOfLoose() {
         int[] loose = {LOOSE, LOOSE_RESIDUES};
-        refusedLeave("of a loose table", loose, t -> (x, zero) -> x.leave(NEW, t, 1, zero));
+        refusedLeave("of a loose table", loose, t -> (x, zero) -> x.leave(FILLED, t, 1, zero));
         refusedLeave("of a loose table to itself", loose, t -> (x, zero) -> x.leave(t, t, 0, zero));
     }
 
     @Sentence({LEAVE, NOTHING})
     static void leaveTableBelow() {
-        refusedLeave("of a table below 0", BELOW, t -> (x, zero) -> x.leave(NEW, t, 0, zero));
+        refusedLeave("of a table below 0", BELOW, t -> (x, zero) -> x.leave(FILLED, t, 0, zero));
     }
 
     @Sentence({LEAVE, NOTHING})
     static void leaveTableAbove() {
-        refusedLeave("of a table above 7", NO_TABLE, t -> (x, zero) -> x.leave(NEW, t, 0, zero));
+        refusedLeave("of a table above 7", NO_TABLE, t -> (x, zero) -> x.leave(FILLED, t, 0, zero));
     }
 
     @Sentence({LEAVE, NOTHING})
     static void leaveToBelow() {
-        refusedLeave("to a table below 0", BELOW, to -> (x, zero) -> x.leave(to, REDUCED, 1, zero));
+        refusedLeave("to a table below 0", BELOW, to -> (x, zero) -> x.leave(to, TURNED, 1, zero));
     }
 
     @Sentence({LEAVE, NOTHING})
     static void leaveToAbove() {
-        refusedLeave("to a table above 7", NO_TABLE, to -> (x, zero) -> x.leave(to, REDUCED, 1, zero));
+        refusedLeave("to a table above 7", NO_TABLE, to -> (x, zero) -> x.leave(to, TURNED, 1, zero));
     }
 
     @Sentence({LEAVE, NOTHING})
     static void leaveSetOfOtherColumns() {
         int[] sets = {16, 17, 31, 32, 4096, 65536 + 1, 1 << 30, MOST};
-        refusedLeave("a set of other columns", sets, set -> (x, zero) -> x.leave(NEW, REDUCED, set, zero));
+        refusedLeave("a set of other columns", sets, set -> (x, zero) -> x.leave(FILLED, REDUCED, set, zero));
+        int[] three = {8, 9, 16, 4096};
+        refusedLeave("a set behind three columns", three, set -> (x, zero) -> x.leave(FILLED, TURNED, set, zero));
         int[] nine = {1 << 9, 1 << 10, 1 << 12, (1 << 10) - 1};
-        refusedLeave("a set behind nine columns", nine, set -> (x, zero) -> x.leave(0, NINE_COLUMNS, set, zero));
+        refusedLeave("a set behind nine columns", nine, set -> (x, zero) -> x.leave(REDUCED, NINE_COLUMNS, set, zero));
         int[] none = {1, 2, 4096, MOST};
-        refusedLeave("a set of no columns", none, set -> (x, zero) -> x.leave(0, NEW, set, zero));
+        refusedLeave("a set of no columns", none, set -> (x, zero) -> x.leave(REDUCED, NEW, set, zero));
     }
 
     @Sentence({LEAVE, NOTHING})
     static void leaveSetBelow() {
         int[] sets = {-1, -2, -16, LEAST, LEAST + 1, LEAST + 15};
-        refusedLeave("a set below 0", sets, set -> (x, zero) -> x.leave(NEW, REDUCED, set, zero));
-        refusedLeave("a set below 0, no columns", sets, set -> (x, zero) -> x.leave(0, NEW, set, zero));
+        refusedLeave("a set below 0", sets, set -> (x, zero) -> x.leave(FILLED, REDUCED, set, zero));
+        refusedLeave("a set below 0, no columns", sets, set -> (x, zero) -> x.leave(REDUCED, NEW, set, zero));
     }
 
     // sum
 
     @Sentence({SUM, NOTHING})
     static void sumOfLooseFirst() {
-        refused("sum of a loose table", x -> x.sum(NEW, LOOSE, TURNED), NONE);
+        refused("sum of a loose table", x -> x.sum(FILLED, LOOSE, TURNED), NONE);
         refused("sum of a loose table to itself", x -> x.sum(LOOSE, LOOSE, TURNED), NONE);
     }
 
     @Sentence({SUM, NOTHING})
     static void sumOfLooseSecond() {
-        refused("sum with a loose table", x -> x.sum(NEW, TURNED, LOOSE), NONE);
-        refused("sum of two loose tables", x -> x.sum(NEW, LOOSE, LOOSE), NONE);
-        refused("sum of loose residues", x -> x.sum(NEW, LOOSE_RESIDUES, LOOSE_RESIDUES), NONE);
+        refused("sum with a loose table", x -> x.sum(FILLED, TURNED, LOOSE), NONE);
+        refused("sum of two loose tables", x -> x.sum(FILLED, LOOSE, LOOSE), NONE);
+        refused("sum of loose residues", x -> x.sum(FILLED, LOOSE_RESIDUES, LOOSE_RESIDUES), NONE);
     }
 
     @Sentence({SUM, NOTHING})
     static void sumToBelow() {
-        refusedEach("sum to a table below 0", BELOW, to -> x -> x.sum(to, REDUCED, TURNED), NONE);
+        refusedEach("sum to a table below 0", BELOW, to -> x -> x.sum(to, TURNED, REDUCED), NONE);
     }
 
     @Sentence({SUM, NOTHING})
     static void sumToAbove() {
-        refusedEach("sum to a table above 7", NO_TABLE, to -> x -> x.sum(to, REDUCED, TURNED), NONE);
+        refusedEach("sum to a table above 7", NO_TABLE, to -> x -> x.sum(to, TURNED, REDUCED), NONE);
     }
 
     @Sentence({SUM, NOTHING})
     static void sumFirstBelow() {
-        refusedEach("sum of a table below 0", BELOW, a -> x -> x.sum(NEW, a, TURNED), NONE);
+        refusedEach("sum of a table below 0", BELOW, a -> x -> x.sum(FILLED, a, TURNED), NONE);
     }
 
     @Sentence({SUM, NOTHING})
     static void sumFirstAbove() {
-        refusedEach("sum of a table above 7", NO_TABLE, a -> x -> x.sum(NEW, a, TURNED), NONE);
+        refusedEach("sum of a table above 7", NO_TABLE, a -> x -> x.sum(FILLED, a, TURNED), NONE);
     }
 
     @Sentence({SUM, NOTHING})
     static void sumSecondBelow() {
-        refusedEach("sum with a table below 0", BELOW, b -> x -> x.sum(NEW, TURNED, b), NONE);
+        refusedEach("sum with a table below 0", BELOW, b -> x -> x.sum(FILLED, TURNED, b), NONE);
     }
 
     @Sentence({SUM, NOTHING})
     static void sumSecondAbove() {
-        refusedEach("sum with a table above 7", NO_TABLE, b -> x -> x.sum(NEW, TURNED, b), NONE);
+        refusedEach("sum with a table above 7", NO_TABLE, b -> x -> x.sum(FILLED, TURNED, b), NONE);
     }
 
     @Sentence({SUM, NOTHING})
     static void sumOfTwoFields() {
-        refused("sum of rationals and residues", x -> x.sum(NEW, REDUCED, RESIDUES), NONE);
+        refused("sum of rationals and residues", x -> x.sum(FILLED, REDUCED, RESIDUES), NONE);
         refused("sum of residues and rationals", x -> x.sum(RESIDUES, RESIDUES, REDUCED), NONE);
-        refused("sum of residues and no rational columns", x -> x.sum(0, RESIDUES, NEW), NONE);
-        refused("sum of no rational columns and residues", x -> x.sum(0, NEW, RESIDUES), NONE);
+        refused("sum of a turned table and residues", x -> x.sum(FILLED, TURNED, RESIDUES), NONE);
+        refused("sum of residues and a turned table", x -> x.sum(TURNED, RESIDUES, TURNED), NONE);
+        refused("sum of residues and no rational columns", x -> x.sum(REDUCED, RESIDUES, NEW), NONE);
+        refused("sum of no rational columns and residues", x -> x.sum(REDUCED, NEW, RESIDUES), NONE);
     }
 
     @Sentence({SUM, NOTHING})
@@ -403,9 +445,9 @@ public final class RefusalTest {
 
     @Sentence({SUM, NOTHING})
     static void sumOfTooManyColumns() {
-        refused("sum of 9 and 4 columns", x -> x.sum(NEW, NINE_COLUMNS, REDUCED), NONE);
+        refused("sum of 9 and 4 columns", x -> x.sum(FILLED, NINE_COLUMNS, REDUCED), NONE);
         refused("sum of 4 and 9 columns", x -> x.sum(REDUCED, REDUCED, NINE_COLUMNS), NONE);
-        refused("sum of 9 and 9 columns", x -> x.sum(NEW, NINE_COLUMNS, NINE_COLUMNS), NONE);
+        refused("sum of 9 and 9 columns", x -> x.sum(FILLED, NINE_COLUMNS, NINE_COLUMNS), NONE);
         Run x = new Run().noRows(0, 3, 12).noRows(1, 3, 1);
         String before = x.state();
         Check.due("sum of 12 and 1 columns", x.sum(2, 0, 1), NONE);

@@ -9,8 +9,9 @@ public final class TellingTest {
     private static final String DIGIT = "Digit i (from 0, the lowest first) of a number's size as it is told, "
             + "to the base 65536; 0 behind its end.";
     private static final String NO_DIGIT = "NONE when there is none such, or i is below 0.";
-    private static final int[] BEHIND =
-            {7, 8, 9, 10, 11, 100, 65536, 1 << 26, 1 << 27, (1 << 27) + 1, 1 << 28, (1 << 28) + 1, 1 << 30, Integer.MAX_VALUE};
+    /** From 2^27 on, sixteen bits for each digit are more than an int can count. */
+    private static final int[] BEHIND = {7, 8, 9, 10, 11, 100, 65536, 1 << 26, 1 << 27, (1 << 27) + 1, 1 << 28,
+        (1 << 28) + 1, 1 << 30, Integer.MAX_VALUE};
 
     public static void main(String[] args) {
         Check.sentences(TellingTest.class);
